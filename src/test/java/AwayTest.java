@@ -34,6 +34,18 @@ public final class AwayTest {
         t.due("19: all but the first", x.away(1, 0), 5);
         x.mend(1, 6, 0);
         t.due("19: FROM 0 is never", x.away(1, 0), 0);
+        DoorsForThree y = new DoorsForThree();
+        Due.doors(y, 4, 0, 1, 5, 0, 1, 6, 0, 1);
+        Due.children(y, 9, 1, 8, 1);
+        Due.awayFrom(y, 0, 1, 5);
+        Due.awayFrom(y, 1, 6, 24);
+        t.due("19: away for the first", y.away(0, 0), 2);
+        t.due("19: late for the first", y.away(0, 2), 2);
+        t.due("19: none never", y.away(0, 1), 0);
+        t.due("19: never, there and back", y.away(21, 1), 1);
+        t.due("19: never, by turns", y.away(1, 1), 0);
+        y.mend(0, 7, 24);
+        t.due("19: the first and the third never", y.away(0, 1), 2);
         bad("19: what 3", x.away(1, 3));
         bad("19: what -1", x.away(1, -1));
         bad("19: no such child", x.away(2, 0));
@@ -65,6 +77,22 @@ public final class AwayTest {
         // child 0 never eats, so by need all go to it
         t.due("20: by need all", x.gather(40, 4), 25);
         t.due("20: none", x.gather(41, 4), 0);
+        DoorsForThree y = new DoorsForThree();
+        for (int day = 1; day <= 9; day++) {
+            y.door(day, 0);
+        }
+        Due.children(y, 9, 1);
+        Due.law(y, "n=8");
+        t.due("20: the best is nine", y.gather(0, 0), 9);
+        Due.law(y, "(n=1)*3+(n>4)");
+        t.due("20: the best is two", y.gather(0, 0), 2);
+        Due.law(y, "(n=2)*9+(n>20)");
+        t.due("20: the best is three", y.gather(0, 0), 3);
+        Due.law(y, "a");
+        y.child(8, 1);
+        t.due("20: by turns the other has four", y.gather(1, 0) + y.gather(1, 9), 1 + 4 * 8);
+        t.due("20: there and back too", y.gather(21, 3), 4 * 8);
+        t.due("20: by age the eldest has five", y.gather(10, 2), 5 * 9);
         bad("20: ten", x.gather(0, 10));
         bad("20: -1", x.gather(0, -1));
         bad("20: no such child", x.gather(2, 1));

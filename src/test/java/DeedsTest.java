@@ -174,6 +174,7 @@ public final class DeedsTest {
         t.due("35: 40 are kept", x.count(3), 40);
         for (int i = 39; i >= 0; i--) {
             t.due("35: the latest first", x.undo(), i);
+            t.due("35: back to the one before", x.of(0, 0), 2 + (i + 3) % 20);
         }
         t.due("35: no more", x.undo(), -5);
         t.due("35: the first four stay", x.of(0, 0), 5);

@@ -12,7 +12,31 @@ public final class GivingsTest {
         promise16();
         promise17();
         promise18();
+        allFull();
         t.end();
+    }
+
+    /** Twelve DOORS and five CHILDREN: two of 3 each, and two more for the first two. */
+    private static void allFull() {
+        DoorsForThree x = alike(12, 5);
+        for (int rule = 0; rule < 5; rule++) {
+            t.due("12: full, how unfair", x.giving(rule, 0), 3);
+            t.due("12: full, together", x.giving(rule, 1), 36);
+            t.due("16: full", x.swap(rule), -2);
+            t.due("17: full", x.swaps(rule, 1), 3);
+        }
+        t.due("12: full, ENVY of those with less", x.giving(0, 2), 4 + 8 + 16);
+        t.due("12: full, ENVY there and back", x.giving(2, 2), 4 + 8 + 16);
+        t.due("13: full", x.bestRule(0), 0);
+        t.due("14: full", x.fairest(11), -5);
+        t.due("15: full", x.envyFree(), -5);
+        t.due("11: full", x.all(44), 6);
+        t.due("10: full", x.whose(411), 1);
+        t.due("18: full, the first has a part of nothing", x.big(0, 0), 6);
+        t.due("26: full", x.second(0, 1), 3);
+        t.due("27: full", x.pairs(0, 0), -2);
+        t.due("28: full", x.drawn(9, 50, 4) >= 0);
+        t.due("19: full", x.away(44, 0), 0);
     }
 
     /**
@@ -64,6 +88,18 @@ public final class GivingsTest {
         t.due("10: then of like ones by numbers", z.whose(101), 0);
         z.mend(7, 0, 4);
         t.due("10: by DAY, as it is now", z.whose(7), 0);
+        DoorsForThree v = alike(5, 0);
+        Due.children(v, 5, 0, 7, 0, 9, 0, 8, 0, 8, 0);
+        int[] eldest = {2, 3, 4, 1, 0};
+        for (int door = 0; door < 5; door++) {
+            t.due("10: from the eldest on", v.whose(100 + door), eldest[door]);
+        }
+        v.mend(1, 3, 6);
+        Due.law(v, "a");
+        t.due("10: number and law anew", v.all(11), 6);
+        v.mend(1, 3, 18);
+        Due.law(v, "a*2");
+        t.due("10: number and law anew again", v.all(11), 36);
         // child 1 is away on DAY 9 and eats the second a day late (6), so it goes to child 0 by worth
         DoorsForThree w = new DoorsForThree();
         Due.doors(w, 9, 0, 1);
@@ -132,6 +168,11 @@ public final class GivingsTest {
         t.due("13: of like ones the most together", y.bestRule(0), 1);
         t.due("13: as unfair as others", y.bestRule(1), 0);
         t.due("13: then the least", alike(4, 2).bestRule(0), 0);
+        DoorsForThree z = alike(1, 2);
+        z.mend(1, 3, 10);
+        Due.law(z, "14-a");
+        t.due("13: less unfair by 1", z.bestRule(0), 1);
+        t.due("13: so unfair", z.bestRule(1), 4);
         t.due("13: no CHILDREN", alike(4, 0).bestRule(0), 0);
     }
 
@@ -189,6 +230,12 @@ public final class GivingsTest {
         DoorsForThree y = alike(3, 2);
         Due.law(y, "0");
         t.due("15: all are worth nothing", y.envyFree(), 8);
+        Due.law(y, "1");
+        t.due("15: anew by another law", y.envyFree(), 0);
+        y.door(1, 1);
+        t.due("15: anew with another DOOR", y.envyFree(), 6);
+        t.due("15: asked again", y.envyFree(), 6);
+        t.due("15: the FAIREST of these", y.fairest(3), 1);
     }
 
     private static void promise16() {
@@ -200,6 +247,18 @@ public final class GivingsTest {
         t.due("16: RULE -1", x.swap(-1), -1);
         t.due("16: alike ones bring nothing more", alike(6, 3).swap(0), -2);
         t.due("16: no CHILDREN", alike(6, 0).swap(0), -2);
+        DoorsForThree z = alike(2, 2);
+        z.mend(0, 1, 1);
+        z.mend(1, 4, 1);
+        t.due("16: one has more, the other as much", z.swap(0), -2);
+        z.mend(0, 4, 1);
+        z.mend(1, 4, 0);
+        t.due("16: the other has more, the one less", z.swap(0), -2);
+        z.mend(0, 1, 0);
+        z.mend(1, 1, 1);
+        t.due("16: both have more", z.swap(0), 1);
+        z.mend(1, 1, 0);
+        t.due("16: the other has as much", z.swap(0), -2);
         DoorsForThree y = alike(12, 2);
         y.mend(10, 1, 1);
         y.mend(11, 1, 2);
@@ -231,6 +290,10 @@ public final class GivingsTest {
         Due.awayFrom(x, 0, 8, 9);
         t.due("18: each EATS its part as its own", x.big(0, 0), 14);
         Due.awayFrom(x, 0, 0, 0);
+        x.mend(0, 2, 9);
+        // door 0 of SIZE 9 is child 2's: 9 of the others, and a part of SIZE 3 that child 0 likes
+        t.due("18: the first is the greatest", x.big(0, 0), 22);
+        x.mend(0, 2, 1);
         x.mend(1, 2, 3);
         // of like ones door 1: child 0 has 3 of door 2, and a part of SIZE 1 that it does not like
         t.due("18: of like ones the least", x.big(0, 0), 6);

@@ -204,6 +204,15 @@ public final class SignsTest {
         // 0 and 2: child 0 would have 4 more; 1 and 2: child 2 would have 4 more
         t.due("27: of like ones the first", x.pairs(0, 0), 2);
         t.due("27: 4 more", x.pairs(0, 1), 4);
+        DoorsForThree y = new DoorsForThree();
+        Due.doors(y, 1, 7, 1, 2, 2, 1);
+        Due.children(y, 9, 0, 9, 0);
+        t.due("27: alike", y.pairs(0, 0), -2);
+        t.due("27: alike, 0 more", y.pairs(0, 1), 0);
+        y.mend(0, 4, 2);
+        Due.law(y, "w+5");
+        t.due("27: 1 more", y.pairs(0, 0), 1);
+        t.due("27: by 1", y.pairs(0, 1), 1);
         t.due("27: what 2", x.pairs(0, 2), -1);
         t.due("27: what -1", x.pairs(0, -1), -1);
         t.due("27: RULE 5", x.pairs(5, 0), -1);
