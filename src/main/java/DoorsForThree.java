@@ -672,6 +672,7 @@ public final class DoorsForThree {
         // a text gives at most a step a letter, and one for the end of its last LINE
         private static final int MOST_STEPS = MOST_LETTERS + 1;
         private static final int LINE_ENDS = -';', IF_NOT_ZERO = -'?', NEGATIVE = -'~', NO_SIGN = 0;
+        private static final int LOOSEST = 0, COMPARED = 2, TIGHTEST = 4;
         private static final String NAMES = "swdank";
 
         private final int[] tape = new int[MOST_LETTERS];
@@ -728,12 +729,12 @@ public final class DoorsForThree {
         }
 
         private boolean readLine() {
-            if (!readEither(0)) {
+            if (!readLevel(LOOSEST, 0)) {
                 return false;
             }
             if (pass("?") != NO_SIGN) {
                 draftStep(IF_NOT_ZERO);
-                if (!readEither(0)) {
+                if (!readLevel(LOOSEST, 0)) {
                     return false;
                 }
             }
@@ -741,61 +742,32 @@ public final class DoorsForThree {
             return true;
         }
 
-        private boolean readEither(int open) {
-            boolean good = readBoth(open);
-            for (int i = 0; i < letters && good && pass("|") != NO_SIGN; i++) {
-                good = readBoth(open);
-                draftStep(-'|');
+        /** What the tighter levels read, with this level's signs between; it may compare but once. */
+        private boolean readLevel(int level, int open) {
+            if (level > TIGHTEST) {
+                return readOperand(open);
             }
-            return good;
-        }
-
-        private boolean readBoth(int open) {
-            boolean good = readCompared(open);
-            for (int i = 0; i < letters && good && pass("&") != NO_SIGN; i++) {
-                good = readCompared(open);
-                draftStep(-'&');
-            }
-            return good;
-        }
-
-        private boolean readCompared(int open) {
-            if (!readSum(open)) {
-                return false;
-            }
-            int sign = pass("<=>");
-            if (sign == NO_SIGN) {
-                return true;
-            }
-            boolean good = readSum(open);
-            draftStep(-sign);
-            return good;
-        }
-
-        private boolean readSum(int open) {
-            boolean good = readProduct(open);
-            for (int i = 0; i < letters && good; i++) {
-                int sign = pass("+-");
+            boolean good = readLevel(level + 1, open);
+            int most = level == COMPARED ? 1 : letters;
+            for (int i = 0; i < most && good; i++) {
+                int sign = pass(signsOf(level));
                 if (sign == NO_SIGN) {
                     return true;
                 }
-                good = readProduct(open);
+                good = readLevel(level + 1, open);
                 draftStep(-sign);
             }
             return good;
         }
 
-        private boolean readProduct(int open) {
-            boolean good = readOperand(open);
-            for (int i = 0; i < letters && good; i++) {
-                int sign = pass("*/%");
-                if (sign == NO_SIGN) {
-                    return true;
-                }
-                good = readOperand(open);
-                draftStep(-sign);
+        private static String signsOf(int level) {
+            switch (level) {
+                case LOOSEST: return "|";
+                case 1: return "&";
+                case COMPARED: return "<=>";
+                case 3: return "+-";
+                default: return "*/%";
             }
-            return good;
         }
 
         private boolean readOperand(int open) {
@@ -813,7 +785,7 @@ public final class DoorsForThree {
                 return false;
             }
             if (ahead == '(') {
-                return readEither(open + 1) && pass(")") != NO_SIGN;
+                return readLevel(LOOSEST, open + 1) && pass(")") != NO_SIGN;
             }
             boolean good = readOperand(open + 1);
             draftStep(ahead == '!' ? -'!' : NEGATIVE);

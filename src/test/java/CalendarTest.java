@@ -204,6 +204,9 @@ public final class CalendarTest {
             lines.insert(0, i % 2 == 0 ? "1;" : "0?");
         }
         t.due("8: many LINES", Due.law(x, lines.toString()), 1);
+        // 121 steps: the end of the last LINE is one more than there are bytes
+        t.due("8: 120 bytes, the last LINE counts", Due.law(x, "0?1;".repeat(29) + "--!0"), 1);
+        t.due("8: as the last LINE says", x.worth(0, 0), 1);
         StringBuilder deep = new StringBuilder("((((((");
         for (int i = 0; i < 107; i++) {
             deep.append(i % 2 == 0 ? '7' : '%');
