@@ -48,7 +48,7 @@ public final class DoorsForThree {
     }
 
     public int doors(int shelf, int i, int n) {
-        if (!isShelf(shelf) || i < 0 || n < 1 || n > Calendar.MOST_DOORS) {
+        if (!isShelf(shelf) || n < 1 || n > Calendar.MOST_DOORS) {
             return BAD;
         }
         Shelf row = shelves[shelf];
@@ -498,8 +498,8 @@ public final class DoorsForThree {
     }
 
     private boolean doorComes(Shelf row, int from, int three) {
-        // from may be near the greatest int: only a sum that can't wrap is made
-        if (from > row.length - 3 * three - 3) {
+        // from is any int: only a sum that can't wrap is made
+        if (from < 0 || from > row.length - 3 * three - 3) {
             return false;
         }
         int place = from + 3 * three;
@@ -1440,6 +1440,8 @@ public final class DoorsForThree {
 
     /** What a ROW tells: who was at the DOORS, whose they were. */
     private static final class Signs {
+        private static final int NOT_KNOWN = -1;
+
         private final Calendar calendar;
         private final Givings givings;
 
@@ -1507,7 +1509,7 @@ public final class DoorsForThree {
         int firstNotSo(Shelf row, int rule) {
             for (int i = 0; i < row.length; i++) {
                 int told = (int) row.at(i);
-                if (told != -1 && !isSo(i, told, rule)) {
+                if (!isSo(i, told, rule)) {
                     return i;
                 }
             }
@@ -1515,7 +1517,10 @@ public final class DoorsForThree {
         }
 
         private boolean isSo(int door, int told, int rule) {
-            return calendar.hasDoor(door) && calendar.hasChild(told) && givings.owner(rule, door) == told;
+            if (!calendar.hasDoor(door)) {
+                return false;
+            }
+            return told == NOT_KNOWN || calendar.hasChild(told) && givings.owner(rule, door) == told;
         }
     }
 

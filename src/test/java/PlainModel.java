@@ -45,12 +45,12 @@ final class PlainModel {
     }
 
     public int doors(int shelf, int i, int n) {
-        if (!in(shelf, 0, 5) || i < 0 || !in(n, 1, 12)) return BAD;
+        if (!in(shelf, 0, 5) || !in(n, 1, 12)) return BAD;
         if (shelves[shelf] == null) return 0;
         if (!(shelves[shelf] instanceof byte[] row)) return -12;
         for (int k = 0; k < n; k++) {
             long at = i + 3L * k;
-            if (at + 2 >= row.length || doors.size() == 12) return k;
+            if (at < 0 || at + 2 >= row.length || doors.size() == 12) return k;
             int p = (int) at;
             if (!in(row[p], 1, 24) || !in(row[p + 1], 0, 7) || !in(row[p + 2], 1, 9)) return k;
             door(row[p], row[p + 1]);
@@ -568,8 +568,9 @@ final class PlainModel {
         int[] given = giving(rule);
         byte[] told = (byte[]) shelves[shelf];
         for (int i = 0; i < told.length; i++) {
+            if (i >= given.length) return i;
             if (told[i] == -1) continue;
-            if (i >= given.length || told[i] < 0 || given[i] != told[i]) return i;
+            if (told[i] < 0 || given[i] != told[i]) return i;
         }
         return NOT;
     }

@@ -119,9 +119,11 @@ public final class SignsTest {
         t.due("24: all so", x.judge(0, 0), -2);
         t.due("24: there and back the last is not", x.judge(0, 2), 3);
         Due.bytes(x, 0, 2, 0, 1, 0, -1, -1);
-        t.due("24: not known beyond the DOORS", x.judge(0, 0), -2);
-        Due.bytes(x, 0, 2, 0, 1, 0, -1, 0);
-        t.due("24: beyond the DOORS", x.judge(0, 0), 5);
+        t.due("24: not known beyond the DOORS", x.judge(0, 0), 4);
+        Due.bytes(x, 0, 2, 0, 1, -1, 0);
+        t.due("24: beyond the DOORS", x.judge(0, 0), 4);
+        Due.bytes(x, 0, 2, 0, 1, -1);
+        t.due("24: the last DOOR is not known", x.judge(0, 0), -2);
         Due.bytes(x, 0, -1, -1, 1);
         t.due("24: some are not known", x.judge(0, 0), -2);
         Due.bytes(x, 0, -1, 1, 0);
@@ -138,6 +140,14 @@ public final class SignsTest {
         t.due("24: nobody's DOOR is not so told by -2", y.judge(0, 0), 0);
         Due.bytes(y, 0, -1);
         t.due("24: not known, no CHILDREN", y.judge(0, 0), -2);
+        DoorsForThree z = new DoorsForThree();
+        Due.bytes(z, 0, -1);
+        t.due("24: not known, no DOORS", z.judge(0, 4), 0);
+        z.row(0, 0, 0);
+        t.due("24: nothing told, no DOORS", z.judge(0, 4), -2);
+        Due.bytes(z, 0, -1, -1);
+        z.door(1, 1);
+        t.due("24: not known, then beyond the DOORS", z.judge(0, 4), 1);
     }
 
     private static void promise25() {
@@ -152,6 +162,10 @@ public final class SignsTest {
         t.due("25: there and back alone", x.byWhat(0), 4);
         Due.bytes(x, 0, 9);
         t.due("25: none", x.byWhat(0), 0);
+        Due.bytes(x, 0, -1, -1, -1, -1);
+        t.due("25: not known, each DOOR", x.byWhat(0), 31);
+        Due.bytes(x, 0, -1, -1, -1, -1, -1);
+        t.due("25: not known beyond the DOORS", x.byWhat(0), 0);
         x.row(0, 0, 0);
         t.due("25: nothing told", x.byWhat(0), 31);
     }
