@@ -207,6 +207,13 @@ public final class CalendarTest {
         t.due("8: 119 bytes", Due.law(x, longest.toString()), 1);
         t.due("8: all of them count", x.worth(0, 0), 60);
         t.due("8: 120 bytes that end too early", Due.law(x, longest + "+"), -220);
+        promise8Longest();
+    }
+
+    private static void promise8Longest() {
+        DoorsForThree x = new DoorsForThree();
+        x.door(5, 1);
+        x.child(7, 1);
         StringBuilder lines = new StringBuilder("1");
         for (int i = 0; i < 59; i++) {
             lines.insert(0, i % 2 == 0 ? "1;" : "0?");

@@ -18,7 +18,7 @@ public final class GivingsTest {
 
     /** Twelve DOORS and five CHILDREN: two of 3 each, and two more for the first two. */
     private static void allFull() {
-        DoorsForThree x = alike(12, 5);
+        DoorsForThree x = Due.alike(12, 5);
         for (int rule = 0; rule < 5; rule++) {
             t.due("12: full, how unfair", x.giving(rule, 0), 3);
             t.due("12: full, together", x.giving(rule, 1), 36);
@@ -49,17 +49,6 @@ public final class GivingsTest {
         return x;
     }
 
-    private static DoorsForThree alike(int doors, int children) {
-        DoorsForThree x = new DoorsForThree();
-        for (int i = 0; i < doors; i++) {
-            x.door(5, 7);
-        }
-        for (int i = 0; i < children; i++) {
-            x.child(9, 0);
-        }
-        return x;
-    }
-
     private static void promise10() {
         DoorsForThree x = calendar();
         int[][] given = {{2, 0, 0, 1, 1}, {0, 1, 1, 2, 2}, {2, 0, 2, 1, 1}, {0, 1, 2, 0, 0}, {2, 0, 2, 0, 1}};
@@ -76,7 +65,7 @@ public final class GivingsTest {
         t.due("10: no DOORS", y.whose(0), -1);
         y.door(1, 1);
         t.due("10: no CHILDREN", y.whose(400), -2);
-        DoorsForThree z = alike(8, 3);
+        DoorsForThree z = Due.alike(8, 3);
         int[] turns = {0, 1, 2, 0, 1, 2, 0, 1};
         int[] back = {0, 1, 2, 2, 1, 0, 0, 1};
         for (int door = 0; door < 8; door++) {
@@ -88,7 +77,7 @@ public final class GivingsTest {
         t.due("10: then of like ones by numbers", z.whose(101), 0);
         z.mend(7, 0, 4);
         t.due("10: by DAY, as it is now", z.whose(7), 0);
-        DoorsForThree v = alike(5, 0);
+        DoorsForThree v = Due.alike(5, 0);
         Due.children(v, 5, 0, 7, 0, 9, 0, 8, 0, 8, 0);
         int[] eldest = {2, 3, 4, 1, 0};
         for (int door = 0; door < 5; door++) {
@@ -151,9 +140,9 @@ public final class GivingsTest {
         t.due("12: RULE -1", x.giving(-1, 0), -1);
         t.due("12: what 3", x.giving(0, 3), -1);
         t.due("12: what -1", x.giving(0, -1), -1);
-        t.due("12: nobody envies alike ones", alike(6, 3).giving(0, 2), 0);
-        t.due("12: no CHILDREN", alike(6, 0).giving(3, 0), 0);
-        t.due("12: no DOORS", alike(0, 3).giving(3, 0), 0);
+        t.due("12: nobody envies alike ones", Due.alike(6, 3).giving(0, 2), 0);
+        t.due("12: no CHILDREN", Due.alike(6, 0).giving(3, 0), 0);
+        t.due("12: no DOORS", Due.alike(0, 3).giving(3, 0), 0);
     }
 
     private static void promise13() {
@@ -167,13 +156,13 @@ public final class GivingsTest {
         Due.children(y, 5, 0, 9, 1);
         t.due("13: of like ones the most together", y.bestRule(0), 1);
         t.due("13: as unfair as others", y.bestRule(1), 0);
-        t.due("13: then the least", alike(4, 2).bestRule(0), 0);
-        DoorsForThree z = alike(1, 2);
+        t.due("13: then the least", Due.alike(4, 2).bestRule(0), 0);
+        DoorsForThree z = Due.alike(1, 2);
         z.mend(1, 3, 10);
         Due.law(z, "14-a");
         t.due("13: less unfair by 1", z.bestRule(0), 1);
         t.due("13: so unfair", z.bestRule(1), 4);
-        t.due("13: no CHILDREN", alike(4, 0).bestRule(0), 0);
+        t.due("13: no CHILDREN", Due.alike(4, 0).bestRule(0), 0);
     }
 
     private static void promise14() {
@@ -189,7 +178,7 @@ public final class GivingsTest {
         t.due("14: -3", x.fairest(-3), -1);
         x.mend(1, 4, 0);
         t.due("14: anew when a number is another", x.fairest(0), 0);
-        DoorsForThree y = alike(8, 3);
+        DoorsForThree y = Due.alike(8, 3);
         t.due("14: eight alike", y.fairest(-1), 3);
         t.due("14: eight alike together", y.fairest(-2), 24);
         int[] first = {0, 0, 0, 1, 1, 1, 2, 2};
@@ -199,12 +188,12 @@ public final class GivingsTest {
         y.child(9, 0);
         t.due("14: four CHILDREN", y.fairest(-1), -5);
         t.due("14: BAD ahead of STATE", y.fairest(8), -1);
-        t.due("14: nine DOORS", alike(9, 3).fairest(-2), -5);
-        t.due("14: nine DOORS, no CHILDREN", alike(9, 0).fairest(-2), -5);
-        t.due("14: no DOORS", alike(0, 1).fairest(-1), 0);
-        t.due("14: no DOORS together", alike(0, 1).fairest(-2), 0);
-        t.due("14: no such DOOR", alike(0, 1).fairest(0), -1);
-        DoorsForThree z = alike(2, 2);
+        t.due("14: nine DOORS", Due.alike(9, 3).fairest(-2), -5);
+        t.due("14: nine DOORS, no CHILDREN", Due.alike(9, 0).fairest(-2), -5);
+        t.due("14: no DOORS", Due.alike(0, 1).fairest(-1), 0);
+        t.due("14: no DOORS together", Due.alike(0, 1).fairest(-2), 0);
+        t.due("14: no such DOOR", Due.alike(0, 1).fairest(0), -1);
+        DoorsForThree z = Due.alike(2, 2);
         Due.awayFrom(z, 0, 5, 24);
         t.due("14: as EATEN", z.fairest(-1), 0);
         t.due("14: one never eats", z.fairest(-2), 0);
@@ -220,14 +209,14 @@ public final class GivingsTest {
         Due.doors(x, 1, 1, 1, 2, 0, 1);
         Due.children(x, 5, 0, 9, 1);
         t.due("15: each has the liked one", x.envyFree(), 1);
-        t.due("15: six alike for three", alike(6, 3).envyFree(), 90);
-        t.due("15: four alike for two", alike(4, 2).envyFree(), 6);
-        t.due("15: three alike for two", alike(3, 2).envyFree(), 0);
-        t.due("15: all for one", alike(8, 1).envyFree(), 1);
-        t.due("15: no DOORS", alike(0, 3).envyFree(), 1);
-        t.due("15: four CHILDREN", alike(4, 4).envyFree(), -5);
-        t.due("15: nine DOORS", alike(9, 2).envyFree(), -5);
-        DoorsForThree y = alike(3, 2);
+        t.due("15: six alike for three", Due.alike(6, 3).envyFree(), 90);
+        t.due("15: four alike for two", Due.alike(4, 2).envyFree(), 6);
+        t.due("15: three alike for two", Due.alike(3, 2).envyFree(), 0);
+        t.due("15: all for one", Due.alike(8, 1).envyFree(), 1);
+        t.due("15: no DOORS", Due.alike(0, 3).envyFree(), 1);
+        t.due("15: four CHILDREN", Due.alike(4, 4).envyFree(), -5);
+        t.due("15: nine DOORS", Due.alike(9, 2).envyFree(), -5);
+        DoorsForThree y = Due.alike(3, 2);
         Due.law(y, "0");
         t.due("15: all are worth nothing", y.envyFree(), 8);
         Due.law(y, "1");
@@ -245,9 +234,9 @@ public final class GivingsTest {
         t.due("16: by worth none", x.swap(3), -2);
         t.due("16: RULE 5", x.swap(5), -1);
         t.due("16: RULE -1", x.swap(-1), -1);
-        t.due("16: alike ones bring nothing more", alike(6, 3).swap(0), -2);
-        t.due("16: no CHILDREN", alike(6, 0).swap(0), -2);
-        DoorsForThree z = alike(2, 2);
+        t.due("16: alike ones bring nothing more", Due.alike(6, 3).swap(0), -2);
+        t.due("16: no CHILDREN", Due.alike(6, 0).swap(0), -2);
+        DoorsForThree z = Due.alike(2, 2);
         z.mend(0, 1, 1);
         z.mend(1, 4, 1);
         t.due("16: one has more, the other as much", z.swap(0), -2);
@@ -259,7 +248,7 @@ public final class GivingsTest {
         t.due("16: both have more", z.swap(0), 1);
         z.mend(1, 1, 0);
         t.due("16: the other has as much", z.swap(0), -2);
-        DoorsForThree y = alike(12, 2);
+        DoorsForThree y = Due.alike(12, 2);
         y.mend(10, 1, 1);
         y.mend(11, 1, 2);
         y.mend(0, 4, 2);
@@ -276,7 +265,7 @@ public final class GivingsTest {
         t.due("17: none, how unfair", x.swaps(3, 1), 16);
         t.due("17: RULE 5", x.swaps(5, 0), -1);
         t.due("17: what 2", x.swaps(0, 2), -1);
-        t.due("17: no CHILDREN", alike(3, 0).swaps(0, 1), 0);
+        t.due("17: no CHILDREN", Due.alike(3, 0).swaps(0, 1), 0);
     }
 
     private static void promise18() {
@@ -305,8 +294,8 @@ public final class GivingsTest {
         t.due("18: no such child", x.big(0, 3), -1);
         t.due("18: child -2", x.big(0, -2), -1);
         t.due("18: RULE 5", x.big(5, -1), -1);
-        t.due("18: no DOORS", alike(0, 2).big(0, 1), -2);
-        t.due("18: no CHILDREN", alike(2, 0).big(0, -1), -2);
-        t.due("18: no CHILDREN, child 0", alike(2, 0).big(0, 0), -1);
+        t.due("18: no DOORS", Due.alike(0, 2).big(0, 1), -2);
+        t.due("18: no CHILDREN", Due.alike(2, 0).big(0, -1), -2);
+        t.due("18: no CHILDREN, child 0", Due.alike(2, 0).big(0, 0), -1);
     }
 }

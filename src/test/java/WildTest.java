@@ -8,7 +8,8 @@ import java.util.Random;
 
 /** Whatever is asked, in whatever state: an answer, never an exception. */
 public final class WildTest {
-    private static final int RUNS = 150, CALLS = 512;
+    /** Some 60 calls set the state up: an object is used for 512. */
+    private static final int RUNS = 150, CALLS = 450;
     private static final int[] EDGES = {Integer.MIN_VALUE, Integer.MIN_VALUE + 1, -1000, -100, -10, -2, -1, 0, 1, 2, 3, 4, 5, 6, 7, 8, 9,
         10, 11, 12, 13, 24, 25, 40, 44, 49, 50, 51, 59, 60, 61, 99, 100, 111, 120, 255, 256, 400, 404, 411, 412, 500, 1124, 1199, 1200,
         Integer.MAX_VALUE - 3, Integer.MAX_VALUE - 2, Integer.MAX_VALUE - 1, Integer.MAX_VALUE};
