@@ -71,6 +71,9 @@ public final class FaceTest {
         for (String form : METHODS) {
             names.add(form.substring(form.indexOf(' ') + 1, form.indexOf('(')));
         }
+        for (Method m : face.getDeclaredMethods()) {
+            t.due(m + " bears no public one's name", Modifier.isPublic(m.getModifiers()) || !names.contains(m.getName()));
+        }
         Class<?>[] inside = face.getDeclaredClasses();
         t.due("at most twelve classes", inside.length <= 11);
         for (Class<?> c : inside) {
